@@ -6,6 +6,7 @@ public final class DrawingsTest {
         tooFewPoints();
         tooManyDrawings();
         wiring();
+        wiringSeven();
         wrongWords();
         copying();
         flipping();
@@ -98,6 +99,24 @@ public final class DrawingsTest {
         Halls.spell(hall, 2, 1, 2, 0, 1, 2);
         Due.same("wire(4) again", 3, () -> hall.wire(4));
         Due.tell("signs of 4 other lines", "----", Halls.signs(hall, 3));
+    }
+
+    private static void wiringSeven() {
+        TurnsHall hall = new TurnsHall();
+        for (int round = 6; round > 0; round--) {
+            for (int letter = 0; letter < round; letter++) {
+                hall.letter(letter);
+            }
+        }
+        Due.same("wire(7)", 0, () -> hall.wire(7));
+        Due.tell("signs of 7 lines", "+".repeat(35), Halls.signs(hall, 0));
+        for (int round = 6; round > 0; round--) {
+            for (int letter = 0; letter < round; letter++) {
+                hall.letter(5 - letter);
+            }
+        }
+        Due.same("wire(7) upside down", 1, () -> hall.wire(7));
+        Due.tell("signs of 7 lines upside down", "-".repeat(35), Halls.signs(hall, 1));
     }
 
     private static void wrongWords() {

@@ -133,6 +133,11 @@ public final class QuestionsTest {
             Due.same("crossings of a hull of " + points, BINOMIAL_4[points], () -> Halls.convex(many).crossings(0));
         }
         Due.same("crossings with a middle", 0, () -> Halls.middle().crossings(0));
+        TurnsHall hall = Halls.convex(7);
+        Halls.draw(hall, 0, 0, 10, 11, 0, 10, 10, 0);
+        Due.same("crossings of seven", 35, () -> hall.crossings(0));
+        Due.same("crossings of fewer points after more", 1, () -> hall.crossings(1));
+        Due.yes("the first and the last two cross", hall.cross(1, 0, 1, 2, 3));
     }
 
     private static void empties() {
@@ -141,7 +146,13 @@ public final class QuestionsTest {
             int many = points;
             Due.same("empties of a hull of " + points, all[points], () -> Halls.convex(many).empties(0));
         }
-        Due.same("empties with a middle", 3, () -> Halls.middle().empties(0));
+        TurnsHall hall = Halls.middle();
+        for (int middle = 3; middle >= 0; middle--) {
+            Due.same("empties with a middle " + middle, 3, () -> hall.empties(0));
+            if (middle > 0) {
+                hall.rename(0, middle, middle - 1);
+            }
+        }
     }
 
     private static void levels() {
@@ -200,6 +211,9 @@ public final class QuestionsTest {
         Due.same("points after extensions", 5, () -> hall.points(0));
         Halls.draw(hall, 0, 0, 9, 0, 0, 9);
         Due.same("extensions of fewer points after more", 7, () -> hall.extensions(1));
+        Halls.draw(hall, 0, 0, 100, 0, 100, 100, 150, 200);
+        Due.same("extensions of four, one within", 18, () -> hall.extensions(2));
+        Due.same("extensions of fewer points after those", 7, () -> hall.extensions(1));
     }
 
     private static void canonical() {

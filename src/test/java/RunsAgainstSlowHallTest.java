@@ -38,7 +38,8 @@ public final class RunsAgainstSlowHallTest {
     private void go() {
         int breadth = draws.below(3) == 0 ? 4 : 1000;
         while (made < CALLS) {
-            switch (draws.below(12)) {
+            switch (draws.below(13)) {
+                case 7 -> shelveAgain();
                 case 0, 1 -> shelve(breadth);
                 case 2 -> spell();
                 case 3 -> change();
@@ -86,6 +87,31 @@ public final class RunsAgainstSlowHallTest {
             case 2, 3 -> check("draw()", fast::draw, slow::draw);
             default -> { }
         }
+    }
+
+    /** Puts the numbers of a drawing on the shelf once more, one of them perhaps another one, and gives them back. */
+    private void shelveAgain() {
+        int d = drawing();
+        if (d < 0 || d >= slow.drawings() || !slow.hasNumbers(d)) {
+            return;
+        }
+        check("clear()", fast::clear, slow::clear);
+        int moved = draws.below(14);
+        for (int point = 0; point < slow.points(d); point++) {
+            int x = slow.number(d, point, false) + (point == moved ? draws.below(400) - 200 : 0);
+            int y = slow.number(d, point, true);
+            check("place(" + x + ", " + y + ")", () -> fast.place(x, y), () -> slow.place(x, y));
+        }
+        int i = point(d);
+        int j = point(d);
+        int k = point(d);
+        if (draws.below(2) == 0) {
+            check("flip(" + d + ", " + i + ", " + j + ", " + k + ")",
+                    () -> bit(fast.flip(d, i, j, k)), () -> bit(slow.flip(d, i, j, k)));
+        }
+        check("realize(" + d + ")", () -> bit(fast.realize(d)), () -> bit(slow.realize(d)));
+        check("hasNumbers(" + d + ")", () -> bit(fast.hasNumbers(d)), () -> bit(slow.hasNumbers(d)));
+        check("number(" + d + ", " + i + ", true)", () -> fast.number(d, i, true), () -> slow.number(d, i, true));
     }
 
     /** Lets lines cross that did not yet, at places that the rule gives; now and then any letter. */

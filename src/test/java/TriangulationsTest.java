@@ -40,6 +40,23 @@ public final class TriangulationsTest {
         Due.same("flip back", 3, () -> five.flipEdge(0, 1, 4));
         Due.tell("after it went back", "01 03 04 12 13 23 34", Halls.edges(five, 0));
         Due.yes("flips of segments leave the numbers", five.hasNumbers(0));
+        for (int i = 0; i < 4; i++) {
+            TurnsHall four = Halls.convex(4);
+            four.triangulate(0);
+            int low = i % 2;
+            int high = low + 2;
+            int due = i % 2 == 0 ? 13 : 2;
+            if (low == 1) {
+                four.flipEdge(0, 0, 2);
+            }
+            boolean turned = i > 1;
+            Due.same("flip of " + low + ", " + high, due,
+                    () -> four.flipEdge(0, turned ? high : low, turned ? low : high));
+        }
+        TurnsHall hall = Halls.drawn(0, 0, 10, 11, 0, 10, 10, 0);
+        Due.same("triangulate where the first and the last two cross", 5, () -> hall.triangulate(0));
+        Due.tell("the first is taken", "01 02 03 12 13", Halls.edges(hall, 0));
+        Due.same("flip into the last one", 23, () -> hall.flipEdge(0, 1, 0));
     }
 
     private static void edgesThatCannotBeFlipped() {
