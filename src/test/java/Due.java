@@ -10,8 +10,32 @@ final class Due {
 
     private static int asked = 0;
     private static int wrong = 0;
+    private static String sentence = "";
+    private static int askedBefore = -1;
 
     private Due() {
+    }
+
+    /** Names the words of the document by which the next answers are due. */
+    static void by(String heading, String words) {
+        endSentence();
+        sentence = heading + ", \"" + words + "\": ";
+        if (!Document.says(heading, words)) {
+            wrong++;
+            System.out.println(sentence + "the document does not say so");
+        }
+        askedBefore = asked;
+    }
+
+    static void by(int promise, String words) {
+        by("Promise " + promise, words);
+    }
+
+    private static void endSentence() {
+        if (asked == askedBefore) {
+            wrong++;
+            System.out.println(sentence + "no call was made");
+        }
     }
 
     static void same(String call, long want, Call made) {
@@ -63,6 +87,7 @@ final class Due {
     }
 
     static void end() {
+        endSentence();
         if (asked == 0) {
             wrong++;
             System.out.println("no call was made");

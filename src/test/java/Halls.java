@@ -1,5 +1,7 @@
 /** Halls that several tests begin with. */
 final class Halls {
+    static final int BUSY_DRAWINGS = 3;
+
     private Halls() {
     }
 
@@ -31,9 +33,7 @@ final class Halls {
     /** A hall with one drawing of points that all lie on their hull, going round by their names. */
     static TurnsHall convex(int points) {
         TurnsHall hall = new TurnsHall();
-        for (int x = 0; x < points; x++) {
-            hall.place(x * 10, x * x * 10);
-        }
+        shelveHull(hall, points);
         hall.draw();
         return hall;
     }
@@ -41,6 +41,55 @@ final class Halls {
     /** A hall with one drawing of three corners, 0, 1, 2, going round, and a point 3 within. */
     static TurnsHall middle() {
         return drawn(0, 0, 90, 0, 0, 90, 20, 21);
+    }
+
+    /**
+     * A hall with something of all that there is: drawing 0 has 4 points, numbers and a triangulation, drawing 1 has 5
+     * points and a triangulation with a flip, drawing 2 has 7 points and no numbers; points and letters wait.
+     */
+    static TurnsHall busy() {
+        TurnsHall hall = middle();
+        hall.triangulate(0);
+        draw(hall, 0, 0, 10, 10, 20, 40, 30, 90, 40, 160);
+        hall.triangulate(1);
+        hall.flipEdge(1, 0, 2);
+        spellAll(hall, 7);
+        hall.wire(7);
+        shelve(hall, 0, 1, 70, 2, 1, 80);
+        spell(hall, 1, 0, 1);
+        return hall;
+    }
+
+    /** A hall with 6 drawings, of 3 to 7 points; the points that wait have the signs of drawing 0, which has 3. */
+    static TurnsHall full() {
+        TurnsHall hall = new TurnsHall();
+        spell(hall, 0, 1, 0);
+        hall.wire(3);
+        for (int points = 3; points <= 7; points++) {
+            shelveHull(hall, points);
+            hall.draw();
+        }
+        hall.triangulate(0);
+        hall.triangulate(2);
+        shelve(hall, 5, 5, 9, 5, 5, 8);
+        spell(hall, 1, 0, 1);
+        return hall;
+    }
+
+    /** All letters of a right word for so many lines: all signs of its drawing are 1. */
+    static void spellAll(TurnsHall hall, int lines) {
+        for (int round = lines - 1; round > 0; round--) {
+            for (int letter = 0; letter < round; letter++) {
+                hall.letter(letter);
+            }
+        }
+    }
+
+    /** Points that all lie on their hull, going round by their names. */
+    static void shelveHull(TurnsHall hall, int points) {
+        for (int x = 0; x < points; x++) {
+            hall.place(x * 10, x * x * 10);
+        }
     }
 
     /** All signs of a drawing of the hall, i below j below k, as a text of + and -. */
