@@ -32,6 +32,8 @@ public final class BoundsOfCountsTest {
         canonicalOfNone();
         leastCanonical();
         bitsOfCanonical();
+        anyNames();
+        smallAfterLarge();
         Due.end();
     }
 
@@ -316,6 +318,55 @@ public final class BoundsOfCountsTest {
             seven.rename(0, point - 1, point);
             Due.same("canonical of seven under other names", 389043, () -> seven.canonical(0, false));
             Due.same("canonical of their mirror under other names", 520115, () -> seven.canonical(0, true));
+        }
+    }
+
+    /** Each of the segments is once the one between 0 and 1, which comes first. */
+    private static void anyNames() {
+        Due.by("Terms", "whatever is told of a drawing follows from its signs alone");
+        for (int[] order : SlowPlan.permutations(4)) {
+            TurnsHall square = Halls.named(new int[] {0, 0, 10, 0, 10, 11, 0, 10}, order);
+            Due.same("crossings", 1, () -> square.crossings(0));
+            Due.same("empties", 4, () -> square.empties(0));
+            Due.same("matchings", 2, () -> square.matchings(0, 15));
+            Due.same("paths", 8, () -> square.paths(0));
+            Due.same("extensions", 20, () -> square.extensions(0));
+            Due.same("canonical", 0, () -> square.canonical(0, false));
+            levelsAre("four on a hull", square, 0, 4, 2, 0);
+        }
+        for (int[] order : SlowPlan.permutations(6)) {
+            TurnsHall six = Halls.named(new int[] {0, 0, 10, 10, 20, 40, 30, 90, 40, 160, 50, 250}, order);
+            Due.same("crossings of six", 15, () -> six.crossings(0));
+            Due.same("matchings of six", 5, () -> six.matchings(0, 63));
+            Due.same("paths of six", 48, () -> six.paths(0));
+        }
+    }
+
+    /** What was counted for the drawing before leaves no trace. */
+    private static void smallAfterLarge() {
+        Due.by("Terms", "The aim is that whatever is told of a drawing follows from its signs alone");
+        for (int[] order : SlowPlan.permutations(5)) {
+            TurnsHall hall = Halls.named(new int[] {0, 0, 10, 10, 20, 40, 30, 90, 40, 160}, order);
+            Halls.draw(hall, 0, 0, 90, 0, 0, 90, 20, 21);
+            Halls.draw(hall, 0, 0, 90, 0, 0, 90);
+            for (int round = 0; round < 2; round++) {
+                Due.same("crossings of five", 5, () -> hall.crossings(0));
+                Due.same("crossings with a middle", 0, () -> hall.crossings(1));
+                Due.same("matchings of five", 0, () -> hall.matchings(0, 31));
+                Due.same("matchings with a middle", 3, () -> hall.matchings(1, 15));
+                Due.same("paths of five", 20, () -> hall.paths(0));
+                Due.same("paths of three", 3, () -> hall.paths(2));
+                Due.same("extensions of five", 51, () -> hall.extensions(0));
+                Due.same("extensions of three", 7, () -> hall.extensions(2));
+                Due.same("extensions of five again", 51, () -> hall.extensions(0));
+                Due.same("extensions with a middle", 18, () -> hall.extensions(1));
+                Due.same("canonical of five", 0, () -> hall.canonical(0, true));
+                Due.same("canonical with a middle", 1, () -> hall.canonical(1, true));
+                Due.same("triangulations of five", 5, () -> hall.triangulations(0));
+                Due.same("triangulations with a middle", 1, () -> hall.triangulations(1));
+                Due.same("segments of five", 7, () -> hall.triangulate(0));
+                Due.same("segments with a middle", 6, () -> hall.triangulate(1));
+            }
         }
     }
 }

@@ -4,6 +4,7 @@ public final class BoundsOfPointsAndWordsTest {
     private static final int GREATEST = Integer.MAX_VALUE;
 
     public static void main(String[] args) {
+        numberOfNone();
         nothingAtFirst();
         rangeOfX();
         rangeOfY();
@@ -24,6 +25,13 @@ public final class BoundsOfPointsAndWordsTest {
         rightWords();
         placesOfLines();
         Due.end();
+    }
+
+    private static void numberOfNone() {
+        Due.by("Terms", "The constants: `NONE = -1`: None.");
+        Due.same("NONE", -1, () -> TurnsHall.NONE);
+        Due.same("fault of a right word", -1, () -> Halls.busy().fault(3));
+        Due.same("hull of a place that there is not", -1, () -> Halls.busy().hull(0, 3));
     }
 
     private static void nothingAtFirst() {

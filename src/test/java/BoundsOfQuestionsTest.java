@@ -159,13 +159,7 @@ public final class BoundsOfQuestionsTest {
 
     /** The corners have the places 0, 1, 2 of the order, the one within the place 3. */
     private static TurnsHall middleNamed(int[] order) {
-        int[] xy = {0, 0, 90, 0, 0, 90, 20, 21};
-        TurnsHall hall = new TurnsHall();
-        for (int point : order) {
-            hall.place(xy[2 * point], xy[2 * point + 1]);
-        }
-        hall.draw();
-        return hall;
+        return Halls.named(new int[] {0, 0, 90, 0, 0, 90, 20, 21}, order);
     }
 
     private static void hullBeginsWithTheLowest() {
@@ -214,12 +208,11 @@ public final class BoundsOfQuestionsTest {
     private static void layersAre(String due, int... xy) {
         int points = due.length();
         for (int step = 0; step < points; step++) {
-            TurnsHall hall = new TurnsHall();
+            int[] order = new int[points];
             for (int at = 0; at < points; at++) {
-                int point = (at + step) % points;
-                hall.place(xy[2 * point], xy[2 * point + 1]);
+                order[at] = (at + step) % points;
             }
-            hall.draw();
+            TurnsHall hall = Halls.named(xy, order);
             StringBuilder layers = new StringBuilder();
             for (int at = 0; at < points; at++) {
                 layers.append(Due.outcome(layerAt(hall, (at + points - step) % points)));

@@ -127,16 +127,6 @@ public final class BoundsOfSignsTest {
         }
     }
 
-    /** A hall with one drawing of these points, each of them under the name that the order has in its place. */
-    private static TurnsHall named(int[] xy, int[] order) {
-        TurnsHall hall = new TurnsHall();
-        for (int point : order) {
-            hall.place(xy[2 * point], xy[2 * point + 1]);
-        }
-        hall.draw();
-        return hall;
-    }
-
     private static SlowPlan plan(TurnsHall hall, int drawing) {
         SlowPlan plan = new SlowPlan(hall.points(drawing));
         for (int[] t : SlowPlan.choices(plan.n, 3)) {
@@ -170,7 +160,7 @@ public final class BoundsOfSignsTest {
         Due.by("Terms", "the four signs of b, c, d; of a, d, c; of a, b, d; and of a, c, b, are not all the same");
         for (int[] xy : FOURS) {
             for (int[] order : SlowPlan.permutations(4)) {
-                flipEach(named(xy, order));
+                flipEach(Halls.named(xy, order));
             }
         }
     }
@@ -178,7 +168,7 @@ public final class BoundsOfSignsTest {
     private static void signsOfFourAlike() {
         Due.by("Terms", "otherwise it cannot be done");
         for (int[] order : SlowPlan.permutations(4)) {
-            TurnsHall hall = named(FOURS[1], order);
+            TurnsHall hall = Halls.named(FOURS[1], order);
             for (int middle = 0; middle < 4; middle++) {
                 int[] rest = {(middle + 1) % 4, (middle + 2) % 4, (middle + 3) % 4};
                 boolean within = order[middle] == 3;
@@ -195,7 +185,7 @@ public final class BoundsOfSignsTest {
                 + "sign of a, b, e times sign of a, c, d, not all are the same");
         for (int[] xy : FIVES) {
             for (int[] order : SlowPlan.permutations(5)) {
-                flipEach(named(xy, order));
+                flipEach(Halls.named(xy, order));
             }
         }
     }
@@ -280,7 +270,7 @@ public final class BoundsOfSignsTest {
         Due.by("Terms", "The mirror of a drawing has all signs the other way.");
         for (int[] xy : FIVES) {
             for (int[] order : SlowPlan.permutations(5)) {
-                TurnsHall hall = named(xy, order);
+                TurnsHall hall = Halls.named(xy, order);
                 hall.copy(0, true);
                 String mirror = Halls.signs(hall, 0).replace('+', '0').replace('-', '+').replace('0', '-');
                 Due.tell("signs of the mirror", mirror, Halls.signs(hall, 1));

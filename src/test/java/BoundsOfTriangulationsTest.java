@@ -195,13 +195,11 @@ public final class BoundsOfTriangulationsTest {
         Due.by(30, "@return 10 times the lower end of the new segment, and the higher one, together");
         for (int[] order : SlowPlan.permutations(4)) {
             int[] xy = {0, 0, 10, 0, 10, 11, 0, 10};
-            TurnsHall hall = new TurnsHall();
             int[] names = new int[4];
             for (int at = 0; at < 4; at++) {
-                hall.place(xy[2 * order[at]], xy[2 * order[at] + 1]);
                 names[order[at]] = at;
             }
-            hall.draw();
+            TurnsHall hall = Halls.named(xy, order);
             hall.triangulate(0);
             boolean first = hall.edge(0, names[0], names[2]);
             int i = first ? names[0] : names[1];
@@ -294,6 +292,10 @@ public final class BoundsOfTriangulationsTest {
                     () -> Halls.convex(many).triangulations(0));
         }
         Due.same("triangulations with a middle", 1, () -> Halls.middle().triangulations(0));
+        for (int[] order : SlowPlan.permutations(4)) {
+            TurnsHall hall = Halls.named(new int[] {0, 0, 10, 0, 10, 11, 0, 10}, order);
+            Due.same("triangulations of four on a hull under any names", 2, () -> hall.triangulations(0));
+        }
         TurnsHall busy = Halls.busy();
         Due.same("triangulations of a flipped one", 5, () -> busy.triangulations(1));
         Due.tell("the flipped one stays", "01 03 04 12 13 23 34", Halls.edges(busy, 1));

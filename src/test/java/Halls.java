@@ -38,6 +38,16 @@ final class Halls {
         return hall;
     }
 
+    /** A hall with one drawing of these points, each of them under the name that the order has in its place. */
+    static TurnsHall named(int[] xy, int... order) {
+        TurnsHall hall = new TurnsHall();
+        for (int point : order) {
+            hall.place(xy[2 * point], xy[2 * point + 1]);
+        }
+        hall.draw();
+        return hall;
+    }
+
     /** A hall with one drawing of three corners, 0, 1, 2, going round, and a point 3 within. */
     static TurnsHall middle() {
         return drawn(0, 0, 90, 0, 0, 90, 20, 21);
@@ -92,14 +102,15 @@ final class Halls {
         }
     }
 
-    /** All signs of a drawing of the hall, i below j below k, as a text of + and -. */
+    /** All signs of a drawing of the hall, i below j below k, as a text of + and -; what is no sign is written out. */
     static String signs(TurnsHall hall, int drawing) {
         StringBuilder text = new StringBuilder();
         int points = hall.points(drawing);
         for (int i = 0; i < points; i++) {
             for (int j = i + 1; j < points; j++) {
                 for (int k = j + 1; k < points; k++) {
-                    text.append(hall.sign(drawing, i, j, k) == 1 ? '+' : '-');
+                    int sign = hall.sign(drawing, i, j, k);
+                    text.append(sign == 1 ? "+" : sign == -1 ? "-" : "(" + sign + ")");
                 }
             }
         }

@@ -4,16 +4,20 @@
  */
 final class Picture {
     static final int DRAWINGS = 6;
-    static final int SHELF = DRAWINGS;
-    static final int WORD = DRAWINGS + 1;
-    static final int PARTS = DRAWINGS + 2;
+    static final int SHELF_COUNT = DRAWINGS;
+    static final int SHELF = DRAWINGS + 1;
+    static final int WORD_COUNT = DRAWINGS + 2;
+    static final int WORD = DRAWINGS + 3;
+    static final int PARTS = DRAWINGS + 4;
 
     private Picture() {
     }
 
     static String of(TurnsHall hall, int part) {
         return switch (part) {
+            case SHELF_COUNT -> "cleared " + hall.clear();
             case SHELF -> shelf(hall);
+            case WORD_COUNT -> "wiped " + hall.wipe();
             case WORD -> word(hall);
             default -> drawing(hall, part);
         };
@@ -31,19 +35,28 @@ final class Picture {
         return seen.append(" edges ").append(Halls.edges(hall, d)).toString();
     }
 
-    /** Asks where points can be put, then gives the shelf's numbers to a drawing if there is one that takes them. */
+    /** Adds points, as far as that can be done, and looks at all numbers; a full hall gives them to its drawing 0. */
     private static String shelf(TurnsHall hall) {
-        boolean room = hall.drawings() < DRAWINGS;
-        StringBuilder seen = new StringBuilder("shelf: ");
-        seen.append(room ? Due.outcome(hall::draw) : Due.outcome(() -> hall.realize(0) ? 1 : 0));
-        seen.append(' ').append(drawing(hall, room ? Math.max(0, hall.drawings() - 1) : 0));
-        int[] probes = {0, 0, 90, 1, 3, 997, -500, 5, 31, 77, 640, -811};
+        StringBuilder seen = new StringBuilder("shelf:");
+        if (hall.drawings() < DRAWINGS) {
+            appendPlaces(hall, seen);
+            seen.append(" drawn ").append(Due.outcome(hall::draw));
+            seen.append(' ').append(drawing(hall, hall.drawings() - 1));
+        } else {
+            seen.append(" realized ").append(Due.outcome(() -> hall.realize(0) ? 1 : 0));
+            seen.append(' ').append(drawing(hall, 0));
+            appendPlaces(hall, seen);
+        }
+        return seen.append(" cleared ").append(hall.clear()).toString();
+    }
+
+    private static void appendPlaces(TurnsHall hall, StringBuilder seen) {
+        int[] probes = {-3, 2, 90, 1, 3, 997, -500, 5, 31, 77, 640, -811};
         for (int at = 0; at < probes.length; at += 2) {
             int x = probes[at];
             int y = probes[at + 1];
             seen.append(' ').append(Due.outcome(() -> hall.place(x, y)));
         }
-        return seen.append(" cleared ").append(hall.clear()).toString();
     }
 
     /** Asks for faults, makes a drawing if the word is right, else adds letters and asks again. */
