@@ -95,7 +95,7 @@ public final class TurnsHall {
         checkLines(lines);
         Drawing drawing = unused();
         if (word.wrongAt(lines) != NONE) {
-            throw new IllegalStateException("the word is not right");
+            throw new IllegalStateException("the word is not right: fault tells where");
         }
         word.tell(drawing.signs, lines);
         word.count = 0;
@@ -270,7 +270,7 @@ public final class TurnsHall {
         if (i == j || i == k || i == l || j == k || j == l || k == l) {
             throw new IllegalArgumentException("two of the points are the same");
         }
-        return at.signs.parts(i, j, k, l);
+        return at.signs.crosses(i, j, k, l);
     }
 
     public int crossings(int drawing) throws IndexOutOfBoundsException {
@@ -362,7 +362,7 @@ public final class TurnsHall {
         }
         for (int k = 0; k < at.signs.count; k++) {
             for (int l = 0; l < at.signs.count; l++) {
-                if (at.isCorner(i, j, k, 1) && at.isCorner(i, j, l, -1) && at.signs.parts(i, j, k, l)) {
+                if (at.isCorner(i, j, k, 1) && at.isCorner(i, j, l, -1) && at.signs.crosses(i, j, k, l)) {
                     at.edges = at.edges & ~Segments.bit(i, j) | Segments.bit(k, l);
                     return 10 * Math.min(k, l) + Math.max(k, l);
                 }
@@ -696,7 +696,7 @@ public final class TurnsHall {
         }
 
         /** Whether the segments i, j and k, l cross. */
-        private boolean parts(int i, int j, int k, int l) {
+        private boolean crosses(int i, int j, int k, int l) {
             return of(i, j, k) != of(i, j, l) && of(k, l, i) != of(k, l, j);
         }
 
@@ -820,7 +820,7 @@ public final class TurnsHall {
         }
 
         private void note(Signs signs, int i, int j, int k, int l) {
-            if (signs.parts(i, j, k, l)) {
+            if (signs.crosses(i, j, k, l)) {
                 int one = index(i, j);
                 int other = index(k, l);
                 Cells.set(crossing, one, Cells.get(crossing, one) | bit(k, l));
@@ -908,6 +908,9 @@ public final class TurnsHall {
 
     /** The search for the least number over all ways to name the points of a drawing. */
     static final class Naming {
+        // 7 points have 35 sets of three points, a bit for each.
+        private static final long ABOVE_ALL_NUMBERS = 1L << 35;
+
         // The point that has each new name.
         private final int[] named = new int[MOST_POINTS];
         private Signs signs;
@@ -917,7 +920,7 @@ public final class TurnsHall {
         private long leastNumber(Signs of, int turn) {
             signs = of;
             factor = turn;
-            least = Long.MAX_VALUE;
+            least = ABOVE_ALL_NUMBERS;
             nameOn(this, 0, 0, 0L);
             return least;
         }

@@ -14,6 +14,8 @@ public final class LanguageTest {
                 + "|strictfp|yield|var|record|sealed|instanceof)\\b"},
         {"a library that is not needed", "\\b(System|Arrays|Thread|Runtime|Object|Class|Random|Iterator|List)\\b"},
         {"a function of Math that throws", "\\b\\w+Exact\\b"},
+        {"what of Integer, Long and Math is no function of rule 4",
+                "\\b(Integer|Long|Math)\\b(?!\\.(compare|max|min|abs|bitCount|floorDiv|floorMod)\\()"},
         {"an initialiser block", "\\bstatic\\s*\\{"},
         {"an own exception", "\\bextends\\b"},
         {"a method of all objects", "\\b(equals|hashCode|toString|getClass|wait|notify|notifyAll)\\s*\\("},
