@@ -39,11 +39,15 @@ public final class ReadmeTest {
             Matcher step = STEP.matcher(line);
             if (!step.matches()) {
                 Due.tell("README.md: " + line, "a call with its answer", "another line");
-                continue;
+                break;
             }
             String answer = answer(step.group(2), arguments(step.group(3)));
             String want = step.group(4).equals("TurnsHall.NONE") ? "" + TurnsHall.NONE : step.group(4);
             Due.tell("README.md: " + line, want, answer);
+            // What comes after a wrong step would be wrong for its sake alone.
+            if (!want.equals(answer)) {
+                break;
+            }
             if (step.group(1) != null) {
                 named.put(step.group(1), Integer.parseInt(answer));
             }
